@@ -773,7 +773,7 @@ public final class RecordShelf {
         }
 
         private boolean takeDivided(Field field, int at, int last) {
-            if (!takeIndicators(field, at, last)) {
+            if (!takeIndicators(field, at)) {
                 return false;
             }
             boolean codeIsDue = false;
@@ -798,10 +798,10 @@ public final class RecordShelf {
             return mayEnd && text.codeAt(last) == FIELD_END || meet(FIELD, last);
         }
 
-        /** The last place of a field is for its 30 alone, so no indicator may stand there. */
-        private boolean takeIndicators(Field field, int at, int last) {
+        /** Such a field has at least two characters; if it has no more, the missing 30 is met later. */
+        private boolean takeIndicators(Field field, int at) {
             for (int i = at; i < at + 2; i++) {
-                if (i >= last || !isIndicator(text.codeAt(i))) {
+                if (!isIndicator(text.codeAt(i))) {
                     return meet(FIELD, i);
                 }
             }

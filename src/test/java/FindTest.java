@@ -80,6 +80,8 @@ public final class FindTest {
         due("ab ab", 0, '*', HAS, 0);
         due("abc", 0, '*', HAS, 16);
         due("bab", 0, '*', HAS, 0);
+        due("s", 0, '*', HAS, 0);
+        due("4", 0, '*', HAS, 0);
         due("", 0, '*', HAS, 2 | 16);
         due("?!", 0, 'a', HAS, 0);
         due("", 0, 'b', HAS, 16);
@@ -110,12 +112,32 @@ public final class FindTest {
         due(shelf, "", 0, '*', BEGINS, 1 | 2 | 16 | 32);
     }
 
+    private static void keysThatGrow() {
+        RecordShelf shelf = new RecordShelf();
+        shelf.fresh();
+        shelf.field(0, 50, ' ', ' ');
+        Texts.append(shelf, 0, 0, 0, "Z a;");
+        due(shelf, "z", 50, 'a', HAS, 1);
+        due(shelf, "a", 50, 'a', HAS, 1);
+        due(shelf, "z a", 50, 'a', IS, 1);
+        Texts.append(shelf, 0, 0, 0, ",b");
+        due(shelf, "z a", 50, 'a', IS, 0);
+        due(shelf, "z a b", 50, 'a', IS, 1);
+        due(shelf, "a", 50, 'a', HAS, 1);
+        shelf.drop(0, 0);
+        shelf.field(0, 50, ' ', ' ');
+        Texts.append(shelf, 0, 0, 0, "z");
+        due(shelf, "z a", 50, 'a', BEGINS, 0);
+        due(shelf, "z", 50, 'a', IS, 1);
+    }
+
     public static void main(String[] args) {
         whole();
         beginnings();
         words();
         wrongInputs();
         listStays();
+        keysThatGrow();
         CHECK.end();
     }
 }

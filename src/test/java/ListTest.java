@@ -47,6 +47,10 @@ public final class ListTest {
             Texts.record(LETTERS, "50000$aThe  Whale$a~the whale!$athe-WHALE$aThe Whales"),
             Texts.record(LETTERS, "50000$athewhale$aAZ@[az`{$aaz az$a09/:09"));
         due(shelf, 500, '*', "103 101 102 000 001 002 003 100");
+        String twenty = "q".repeat(20);
+        shelf = shelfOf(Texts.record(LETTERS, "50000$a" + twenty + "$a" + twenty.substring(1) + "$a" + twenty + "$aAZ09 0"),
+            Texts.record(LETTERS, "50000$a" + twenty + "$aaz09$aaZ09*"));
+        due(shelf, 500, '*', "101 102 003 001 000 002 100");
     }
 
     private static void codesAndTags() {
@@ -106,6 +110,8 @@ public final class ListTest {
         shelf.drop(0, 0);
         shelf.field(0, 50, ' ', ' ');
         due(shelf, 50, 'a', "010 000");
+        Texts.append(shelf, 0, 1, 0, "z");
+        due(shelf, 50, 'a', "000 010");
     }
 
     /** A record of 8 * 4 subfields; the keys of two fields are alike, and lesser the later they come. */

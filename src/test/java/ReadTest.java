@@ -253,6 +253,7 @@ public final class ReadTest {
         CHECK.read("a fault again", shelf, wrong, FIELD, 39);
         for (int i = 2; i < 6; i++) {
             CHECK.read("record " + i, shelf, right, i, -1);
+            CHECK.due("fields of record " + i, shelf.many(i, -1), 1);
         }
         CHECK.read("a seventh record", shelf, right, ROOM, -1);
         CHECK.read("a seventh record with a fault", shelf, wrong, ROOM, -1);

@@ -148,6 +148,7 @@ public final class ShelfTest {
         CHECK.due("the first is now", shelf.mark(0, 0, 0), 101);
         CHECK.due("a new field is the last", shelf.field(0, 5, ' ', ' '), 5);
         CHECK.due("it is simple", shelf.mark(0, 5, 2), 0);
+        CHECK.due("it has no first indicator", shelf.mark(0, 5, 1), 0);
         CHECK.due("and has one subfield", shelf.many(0, 5), 1);
         CHECK.dueText("which is empty", Texts.shown(shelf, 0, 5, 0), "");
         shelf.append(0, 5, 0, 'x');
