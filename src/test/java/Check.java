@@ -1,6 +1,7 @@
 /** Counts the answers of one test that are not as due, and ends the test with exit code 1 if there was one. */
 final class Check {
     private final String test;
+    private String sentence = "";
     private int asked;
     private int wrong;
 
@@ -8,11 +9,16 @@ final class Check {
         this.test = test;
     }
 
+    /** The sentence of the document that the answers behind this call are asked for. */
+    void says(String newSentence) {
+        sentence = " \"" + newSentence + "\"";
+    }
+
     void due(String call, long got, long want) {
         asked++;
         if (got != want) {
             wrong++;
-            System.out.println(test + ": " + call + " answered " + got + ", due is " + want);
+            System.out.println(test + sentence + ": " + call + " answered " + got + ", due is " + want);
         }
     }
 
@@ -24,7 +30,8 @@ final class Check {
         asked++;
         if (!got.equals(want)) {
             wrong++;
-            System.out.println(test + ": " + call + " gave " + Texts.visible(got) + ", due is " + Texts.visible(want));
+            System.out.println(test + sentence + ": " + call + " gave " + Texts.visible(got) + ", due is "
+                + Texts.visible(want));
         }
     }
 

@@ -63,7 +63,7 @@ public final class FindTest {
         due("", 7, '*', BEGINS, 0);
         due("", 0, 'A', BEGINS, 0);
         due("the whales sing on", 0, '*', BEGINS, 0);
-        due("x".repeat(600), 0, '*', BEGINS, 0);
+        due("x".repeat(300), 0, '*', BEGINS, 0);
     }
 
     private static void words() {
@@ -85,7 +85,7 @@ public final class FindTest {
         due("", 0, '*', HAS, 2 | 16);
         due("?!", 0, 'a', HAS, 0);
         due("", 0, 'b', HAS, 16);
-        due("x".repeat(600), 0, '*', HAS, 0);
+        due("x".repeat(300), 0, '*', HAS, 0);
     }
 
     private static void wrongInputs() {
