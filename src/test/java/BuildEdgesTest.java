@@ -55,6 +55,9 @@ public final class BuildEdgesTest {
         CHECK.due("a seventh one", shelf.fresh(), ROOM);
         CHECK.due("a seventh one that is read", shelf.read(), ROOM);
         CHECK.due("there is none", shelf.many(6, -1), NONE);
+    }
+
+    private static void freshOnes() {
         CHECK.says("Answers its number; ROOM when there are 6.");
         RecordShelf fresh = new RecordShelf();
         for (int i = 0; i < 6; i++) {
@@ -91,7 +94,17 @@ public final class BuildEdgesTest {
             CHECK.due("tag of field " + i, shelf.mark(1, i, 0), 1 + 10 * i);
         }
         CHECK.due("the other record has none", shelf.many(0, -1), 0);
+        CHECK.due("there is no ninth", shelf.mark(1, 8, 0), NONE);
+    }
+
+    private static void ninthField() {
         CHECK.says("ROOM when the record has 8 fields.");
+        RecordShelf shelf = new RecordShelf();
+        shelf.fresh();
+        shelf.fresh();
+        for (int i = 0; i < 8; i++) {
+            CHECK.due("field " + i, shelf.field(1, 5, ' ', ' '), i);
+        }
         CHECK.due("a ninth simple field", shelf.field(1, 1, ' ', ' '), ROOM);
         CHECK.due("a ninth field", shelf.field(1, 999, ' ', ' '), ROOM);
         CHECK.due("a ninth field with the tag 0", shelf.field(1, 0, ' ', ' '), NONE);
@@ -113,7 +126,10 @@ public final class BuildEdgesTest {
             CHECK.due("tag " + tag, shelf.field(0, tag, '3', '4'), 0);
             CHECK.due("the tag", shelf.mark(0, 0, 0), tag);
         }
-        CHECK.says("NONE when there is no such record, tag is not 1 .. 999");
+    }
+
+    private static void noTags() {
+        CHECK.says("tag is not 1 .. 999");
         RecordShelf shelf = small();
         int[] wrong = {LEAST, LEAST + 1, -999, -1, 0, 1000, 1001, 65537, GREATEST};
         for (int tag : wrong) {
@@ -152,6 +168,9 @@ public final class BuildEdgesTest {
             CHECK.due("it is marked", shelf.mark(0, 1, 2), right ? c : NONE);
             CHECK.due("fields", shelf.many(0, -1), right ? 2 : 0);
         }
+    }
+
+    private static void noIndicators() {
         CHECK.says("or the field is not simple and first or second is no indicator");
         RecordShelf shelf = small();
         CHECK.due("neither is one", shelf.field(0, 10, 'x', 'x'), NONE);
@@ -181,7 +200,15 @@ public final class BuildEdgesTest {
         CHECK.due("a third one", shelf.subfield(0, 1, 'c'), 2);
         CHECK.due("a fourth one", shelf.subfield(0, 1, 'b'), 3);
         CHECK.due("it is empty", shelf.shown(0, 1, 3, 0), NONE);
+        CHECK.due("a field that is new has one", shelf.field(0, 10, ' ', ' '), 2);
+        CHECK.due("and no more", shelf.many(0, 2), 1);
+    }
+
+    private static void fifthSubfield() {
         CHECK.says("ROOM when it has 4.");
+        RecordShelf shelf = small();
+        shelf.subfield(0, 1, 'c');
+        CHECK.due("a fourth one", shelf.subfield(0, 1, 'd'), 3);
         CHECK.due("a fifth one", shelf.subfield(0, 1, 'e'), ROOM);
         CHECK.due("a fifth one with no code", shelf.subfield(0, 1, '*'), NONE);
         CHECK.due("there are four", shelf.many(0, 1), 4);
@@ -258,7 +285,13 @@ public final class BuildEdgesTest {
             CHECK.due("append of the character " + n, shelf.append(0, 1, 1, letters.charAt(n - 1)), n);
         }
         CHECK.dueText("all twenty", Texts.shown(shelf, 0, 1, 1), letters);
+    }
+
+    private static void twentyFirst() {
         CHECK.says("ROOM when it has 20.");
+        RecordShelf shelf = small();
+        String letters = "xyzabcdefghijklmnopq";
+        Texts.append(shelf, 0, 1, 1, letters.substring(3));
         CHECK.due("a 21st", shelf.append(0, 1, 1, 'r'), ROOM);
         CHECK.due("a 21st that is not plain", shelf.append(0, 1, 1, (char) 31), NONE);
         CHECK.dueText("still twenty", Texts.shown(shelf, 0, 1, 1), letters);
@@ -414,17 +447,23 @@ public final class BuildEdgesTest {
 
     public static void main(String[] args) {
         atMostSixRecords();
+        freshOnes();
         lettersOfAFreshOne();
         atMostEightFields();
+        ninthField();
         tags();
+        noTags();
         simpleBelowTen();
         indicators();
+        noIndicators();
         noSuchRecord();
         oneToFourSubfields();
+        fifthSubfield();
         codes();
         noSuchField();
         plainCharacters();
         atMostTwenty();
+        twentyFirst();
         takenOut();
         noneSuchToDrop();
         howMany();

@@ -144,6 +144,9 @@ public final class FieldEdgesTest {
         taken2("just so", "001000300000002000300003", simple);
         CHECK.fault("30 one too late", two("001000200000002000400002", simple), FIELD, 49 + 1);
         CHECK.fault("30 one too early", two("001000400000002000200004", simple), FIELD, 49 + 2);
+    }
+
+    private static void cannotStandThere() {
         CHECK.says("at a character of a field that cannot stand there");
         fault("010", "12", FIELD, 1);
         fault("010", "1^", FIELD, 1);
@@ -328,6 +331,7 @@ public final class FieldEdgesTest {
         codes();
         plainOnes();
         justWhereItsLengthSays();
+        cannotStandThere();
         twentyFirst();
         fifthSubfield();
         lastCharacter();

@@ -31,10 +31,14 @@ public final class FindEdgesTest {
         CHECK.due("the text stays", shelf.cut(600), searched.length());
     }
 
+    private static RecordShelf everyTag() {
+        return shelfOf(Texts.record(LETTERS, "001q"), Texts.record(LETTERS, "009q"), Texts.record(LETTERS, "01000$aq"),
+            Texts.record(LETTERS, "00500", "99900$aq"), Texts.record(LETTERS));
+    }
+
     private static void tags() {
         CHECK.says("The records that have a field with this tag (any tag, if it is 0)");
-        RecordShelf shelf = shelfOf(Texts.record(LETTERS, "001q"), Texts.record(LETTERS, "009q"),
-            Texts.record(LETTERS, "01000$aq"), Texts.record(LETTERS, "00500", "99900$aq"), Texts.record(LETTERS));
+        RecordShelf shelf = everyTag();
         for (int how = IS; how <= HAS; how++) {
             due(shelf, "q", 0, ANY, how, 15);
             due(shelf, "q", 1, ANY, how, 1);
@@ -46,7 +50,11 @@ public final class FindEdgesTest {
             due(shelf, "q", 998, ANY, how, 0);
             due(shelf, "q", 999, ANY, how, 8);
         }
+    }
+
+    private static void noTags() {
         CHECK.says("NONE when how or tag is none of these.");
+        RecordShelf shelf = everyTag();
         int[] wrong = {LEAST, LEAST + 1, -999, -1, 1000, 1001, 65536, GREATEST};
         for (int tag : wrong) {
             for (int how = IS; how <= HAS; how++) {
@@ -55,7 +63,7 @@ public final class FindEdgesTest {
         }
     }
 
-    private static void hows() {
+    private static void noHows() {
         CHECK.says("NONE when how or tag is none of these.");
         RecordShelf shelf = shelfOf(Texts.record(LETTERS, "001q"));
         int[] wrong = {LEAST, LEAST + 1, -2, -1, 3, 4, 256, 65536, GREATEST};
@@ -196,7 +204,8 @@ public final class FindEdgesTest {
 
     public static void main(String[] args) {
         tags();
-        hows();
+        noTags();
+        noHows();
         codes();
         sums();
         is();

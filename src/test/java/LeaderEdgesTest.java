@@ -240,6 +240,9 @@ public final class LeaderEdgesTest {
         CHECK.fault("length 0 of the second field",
             Texts.framed(LETTERS, "001000100000010000000001", Texts.body("")), DIRECTORY, 42);
         CHECK.fault("length 1 and a wrong start", Texts.framed(LETTERS, "010000100009", "0"), DIRECTORY, 30);
+    }
+
+    private static void leastSimpleLengths() {
         CHECK.says("(of a simple field below 1)");
         for (int tag = 1; tag <= 9; tag++) {
             CHECK.fault("length 0 of " + tag, told(tag, 0), DIRECTORY, 30);
@@ -283,6 +286,7 @@ public final class LeaderEdgesTest {
         thirtyBehindIt();
         tagOfZeros();
         leastLengths();
+        leastSimpleLengths();
         totals();
         CHECK.end();
     }

@@ -46,7 +46,11 @@ public final class ListEdgesTest {
         due(shelf, 11, ANY, "");
         due(shelf, 998, ANY, "");
         due(shelf, 999, ANY, "030 100");
+    }
+
+    private static void noTags() {
         CHECK.says("NONE when tag is not 1 .. 999 (and nothing is listed then).");
+        RecordShelf shelf = everyTag();
         int[] wrong = {LEAST, LEAST + 1, -999, -1, 0, 1000, 1001, 65537, GREATEST};
         for (int tag : wrong) {
             due(shelf, 1, ANY, "000");
@@ -78,6 +82,46 @@ public final class ListEdgesTest {
         for (char code : noCodes) {
             due(shelf, 10, code, "");
             due(shelf, 9, code, "");
+        }
+    }
+
+    /** Six records of eight fields of four subfields: subfield i of all 192 has the key of the number keys[i]. */
+    private static RecordShelf fullShelf(int[] keys) {
+        String[] texts = new String[6];
+        for (int record = 0; record < 6; record++) {
+            String[] fields = new String[8];
+            for (int field = 0; field < 8; field++) {
+                fields[field] = "50000";
+                for (int i = 0; i < 4; i++) {
+                    fields[field] += "$a" + Integer.toString(36 * 36 + keys[32 * record + 4 * field + i], 36).substring(1);
+                }
+            }
+            texts[record] = Texts.record(LETTERS, fields);
+        }
+        return shelfOf(texts);
+    }
+
+    /** The order of so many headings as there can be, whatever rank a heading comes to in its turn. */
+    private static void everyRank() {
+        CHECK.says("in the order of their keys");
+        int[] steps = {1, 191, 5, 67, 95, 125, 187};
+        for (int step : steps) {
+            int[] keys = new int[192];
+            int[] owners = new int[192];
+            for (int i = 0; i < 192; i++) {
+                keys[i] = (i * step + 11 * (step / 2)) % 192;
+                owners[keys[i]] = i;
+            }
+            // A call for each heading: one shelf has no more than 512 calls for one of its three numbers.
+            for (int what = 0; what < 3; what++) {
+                RecordShelf shelf = fullShelf(keys);
+                CHECK.due("list() with the step " + step, shelf.list(500, 'a'), 192);
+                for (int k = 0; k < 192; k++) {
+                    int owner = owners[k];
+                    int due = what == 0 ? owner / 32 : what == 1 ? owner / 4 % 8 : owner % 4;
+                    CHECK.due("heading(" + k + ", " + what + ") with the step " + step, shelf.heading(k, what), due);
+                }
+            }
         }
     }
 
@@ -132,17 +176,29 @@ public final class ListEdgesTest {
         CHECK.due("heading 47", full.heading(47, 2), 3);
     }
 
-    private static void headingNumbers() {
-        CHECK.says("Of heading k (from 0) of the latest list");
+    private static RecordShelf twoHeadings() {
         RecordShelf shelf = shelfOf(Texts.record(LETTERS, "50000$aa", "50100$ax$bq$ab"));
         CHECK.due("list()", shelf.list(501, 'a'), 2);
+        return shelf;
+    }
+
+    private static void headingNumbers() {
+        CHECK.says("Of heading k (from 0) of the latest list");
+        RecordShelf shelf = twoHeadings();
         int[][] due = {{0, 1, 2}, {0, 1, 0}};
         for (int k = 0; k < 2; k++) {
             for (int what = 0; what < 3; what++) {
                 CHECK.due("heading(" + k + ", " + what + ")", shelf.heading(k, what), due[k][what]);
             }
         }
+        CHECK.due("a shorter list", shelf.list(501, 'b'), 1);
+        CHECK.due("heading 0 of it", shelf.heading(0, 2), 1);
+        CHECK.due("heading 1 of it", shelf.heading(1, 2), NONE);
+    }
+
+    private static void noHeadings() {
         CHECK.says("NONE when there is none.");
+        RecordShelf shelf = twoHeadings();
         int[] numbers = {LEAST, LEAST + 1, -2, -1, 2, 3, 191, 192, 193, 65536, GREATEST};
         for (int k : numbers) {
             for (int what = 0; what < 3; what++) {
@@ -157,9 +213,6 @@ public final class ListEdgesTest {
         }
         CHECK.due("a list of none", shelf.list(502, ANY), 0);
         CHECK.due("its heading", shelf.heading(0, 0), NONE);
-        CHECK.due("a shorter list", shelf.list(501, 'b'), 1);
-        CHECK.due("heading 0 of it", shelf.heading(0, 2), 1);
-        CHECK.due("heading 1 of it", shelf.heading(1, 2), NONE);
     }
 
     private static void asItWasThen() {
@@ -194,11 +247,14 @@ public final class ListEdgesTest {
 
     public static void main(String[] args) {
         tags();
+        noTags();
         codes();
+        everyRank();
         equalKeys();
         emptyKeys();
         howMany();
         headingNumbers();
+        noHeadings();
         asItWasThen();
         CHECK.end();
     }
